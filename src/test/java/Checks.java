@@ -1,3 +1,4 @@
+import java.util.Arrays;
 import java.util.function.LongSupplier;
 
 /** Compares answers with those that are due, and ends the test with exit code 1 if one differs. */
@@ -37,60 +38,13 @@ final class Checks {
         }
     }
 
-    private static void refused(CartelWatch watch, String call, LongSupplier made, String exception) {
-        String before = picture(watch);
-        same(call, answer(made), "throws." + exception);
-        same("all that can be asked after the refused " + call, picture(watch), before);
-    }
-
-    static void refusedIndex(CartelWatch watch, String call, LongSupplier made) {
-        refused(watch, call, made, "IndexOutOfBoundsException");
-    }
-
-    static void refusedArgument(CartelWatch watch, String call, LongSupplier made) {
-        refused(watch, call, made, "IllegalArgumentException");
-    }
-
-    static void refusedState(CartelWatch watch, String call, LongSupplier made) {
-        refused(watch, call, made, "IllegalStateException");
-    }
-
-    /** All that can be asked of a watch without changing it. */
-    static String picture(CartelWatch watch) {
-        StringBuilder text = new StringBuilder();
-        int mark = watch.setMark(1);
-        watch.setMark(mark);
-        text.append("mark ").append(mark).append(" worst ").append(watch.worst());
-        for (int one = 0; one < 7; one++) {
-            text.append(" bidder ").append(watch.turnover(one)).append(' ').append(watch.won(one));
-            for (int other = 0; other < 7; other++) {
-                pictureOfPair(watch, one, other, text);
-            }
-        }
-        for (int number = 0; number < 21; number++) {
-            pictureOfFile(watch, number, text);
-        }
-        return text.toString();
-    }
-
-    private static void pictureOfPair(CartelWatch watch, int one, int other, StringBuilder text) {
-        if (one == other) {
-            return;
-        }
-        text.append(" pair ").append(watch.suspicion(one, other));
-        for (int number = 0; number < 31; number++) {
-            int tender = number;
-            text.append(' ').append(answer(() -> watch.sign(tender, one, other)));
-        }
-    }
-
-    private static void pictureOfFile(CartelWatch watch, int file, StringBuilder text) {
-        text.append(" file ").append(answer(() -> watch.matters(file)));
-        text.append(' ').append(answer(() -> watch.firstTeller(file)));
-        for (int number = 0; number < 7; number++) {
-            int bidder = number;
-            text.append(' ').append(answer(() -> watch.fine(file, bidder)));
-        }
+    /** Numbers that are not from the least to the most: next to them, far away, and some whose low bits fit. */
+    static int[] outside(int least, int most) {
+        int[] candidates = {
+            Integer.MIN_VALUE, Integer.MIN_VALUE + least, -65536 + least, -most, -1, 0, least - 1,
+            most + 1, least + 32, least + 256, least + 65536, 1000000, least + (1 << 24), Integer.MAX_VALUE,
+        };
+        return Arrays.stream(candidates).filter(number -> number < least || number > most).distinct().toArray();
     }
 
     static void end() {

@@ -21,59 +21,46 @@ public final class FilesTest {
         Checks.end();
     }
 
-    /** A tender that one wins and that counts 2 for the pair. */
-    private static int nearTender(CartelWatch x, int winner, int loser) {
-        return nearTender(x, winner, loser, 1000);
-    }
-
-    private static int nearTender(CartelWatch x, int winner, int loser, int sum) {
-        int tender = x.open();
-        x.bid(tender, winner, sum);
-        x.bid(tender, loser, sum + 1);
-        x.award(tender);
-        return tender;
-    }
-
     /** A watch with a file 0 of the bidders 0 and 1 that has that many matters, all won by 0 for 1000. */
-    private static CartelWatch watchWithMatters(int matters) {
-        CartelWatch x = new CartelWatch();
+    private static Watched watchWithMatters(int matters) {
+        Watched x = new Watched();
         x.setMark(1);
         for (int tender = 0; tender < matters; tender++) {
-            nearTender(x, 0, 1);
+            x.near(0, 1);
         }
         x.file(0, 1);
         return x;
     }
 
     private static void promise13File() {
-        CartelWatch x = new CartelWatch();
+        Watched x = new Watched();
         for (int tender = 0; tender < 5; tender++) {
-            Checks.refusedState(x, "file below the mark", () -> x.file(4, 2));
-            nearTender(x, 4, 2);
+            x.refusedState("file below the mark", () -> x.file(4, 2));
+            x.near(4, 2);
         }
         Checks.same("suspicion", x.suspicion(4, 2), 10);
         x.setMark(11);
-        Checks.refusedState(x, "file one below the mark", () -> x.file(4, 2));
+        x.refusedState("file one below the mark", () -> x.file(4, 2));
         x.setMark(10);
         Checks.same("file at the mark", x.file(4, 2), 0);
         x.setMark(1);
-        Checks.refusedState(x, "file of a pair without suspicion", () -> x.file(0, 6));
-        nearTender(x, 0, 6);
+        x.refusedState("file of a pair without suspicion", () -> x.file(0, 6));
+        x.near(0, 6);
         Checks.same("the next file", x.file(0, 6), 1);
     }
 
     private static void promise13OnePerPair() {
-        CartelWatch x = watchWithMatters(3);
-        Checks.refusedState(x, "a second file", () -> x.file(0, 1));
-        Checks.refusedState(x, "a second file, turned round", () -> x.file(1, 0));
+        Watched x = watchWithMatters(3);
+        x.refusedState("a second file", () -> x.file(0, 1));
+        x.refusedState("a second file, turned round", () -> x.file(1, 0));
         x.close(0);
-        Checks.refusedState(x, "a file after a closed one", () -> x.file(1, 0));
-        nearTender(x, 0, 2);
+        x.refusedState("a file after a closed one", () -> x.file(1, 0));
+        x.near(0, 2);
         Checks.same("another pair with one of them", x.file(2, 0), 1);
     }
 
     private static void promise13AtMost20() {
-        CartelWatch x = new CartelWatch();
+        Watched x = new Watched();
         x.setMark(1);
         for (int winner = 0; winner < 6; winner++) {
             int tender = x.open();
@@ -92,58 +79,58 @@ public final class FilesTest {
             }
         }
         Checks.same("the last pair has suspicion", x.suspicion(5, 6), 2);
-        Checks.refusedState(x, "the 21st file", () -> x.file(5, 6));
+        x.refusedState("the 21st file", () -> x.file(5, 6));
         x.close(0);
-        Checks.refusedState(x, "the 21st file after one is closed", () -> x.file(5, 6));
-        Checks.refusedArgument(x, "the 21st file of no pair", () -> x.file(5, 5));
+        x.refusedState("the 21st file after one is closed", () -> x.file(5, 6));
+        x.refusedArgument("the 21st file of no pair", () -> x.file(5, 5));
         Checks.same("the last file is there", x.matters(19), 1);
-        Checks.refusedIndex(x, "matters(20)", () -> x.matters(20));
+        x.refusedIndex("matters(20)", () -> x.matters(20));
     }
 
     private static void promise13FileRefused() {
-        CartelWatch x = new CartelWatch();
-        Checks.refusedArgument(x, "file(-1, 0)", () -> x.file(-1, 0));
-        Checks.refusedArgument(x, "file(7, 0)", () -> x.file(7, 0));
-        Checks.refusedArgument(x, "file(0, -1)", () -> x.file(0, -1));
-        Checks.refusedArgument(x, "file(0, 7)", () -> x.file(0, 7));
-        Checks.refusedArgument(x, "file(3, 3)", () -> x.file(3, 3));
-        Checks.refusedState(x, "file(0, 1)", () -> x.file(0, 1));
-        nearTender(x, 0, 1);
+        Watched x = new Watched();
+        x.refusedArgument("file(-1, 0)", () -> x.file(-1, 0));
+        x.refusedArgument("file(7, 0)", () -> x.file(7, 0));
+        x.refusedArgument("file(0, -1)", () -> x.file(0, -1));
+        x.refusedArgument("file(0, 7)", () -> x.file(0, 7));
+        x.refusedArgument("file(3, 3)", () -> x.file(3, 3));
+        x.refusedState("file(0, 1)", () -> x.file(0, 1));
+        x.near(0, 1);
         x.setMark(2);
         Checks.same("no number was used up", x.file(0, 1), 0);
-        Checks.refusedArgument(x, "file(0, 0) with a file", () -> x.file(0, 0));
+        x.refusedArgument("file(0, 0) with a file", () -> x.file(0, 0));
     }
 
     private static void promise14Matters() {
-        CartelWatch x = new CartelWatch();
+        Watched x = new Watched();
         x.setMark(1);
-        nearTender(x, 0, 1);
+        x.near(0, 1);
         int far = x.open();
         x.bid(far, 0, 1000);
         x.bid(far, 1, 5000);
         x.award(far);
-        nearTender(x, 0, 2);
-        nearTender(x, 1, 0);
+        x.near(0, 2);
+        x.near(1, 0);
         Checks.same("file", x.file(0, 1), 0);
         Checks.same("the tenders that count", x.matters(0), 2);
-        nearTender(x, 0, 1);
+        x.near(0, 1);
         x.passOn(far, 1, 1);
         Checks.same("both count for the suspicion", x.sign(far, 0, 1), 3);
         Checks.same("later signs are no matters", x.matters(0), 2);
         x.tell(0, 0, 0);
         x.close(0);
         Checks.same("matters of a closed file", x.matters(0), 2);
-        Checks.refusedIndex(x, "matters(-1)", () -> x.matters(-1));
-        Checks.refusedIndex(x, "matters(1)", () -> x.matters(1));
-        Checks.refusedIndex(x, "matters(20)", () -> x.matters(20));
+        x.refusedIndex("matters(-1)", () -> x.matters(-1));
+        x.refusedIndex("matters(1)", () -> x.matters(1));
+        x.refusedIndex("matters(20)", () -> x.matters(20));
     }
 
     private static void promise15Tell() {
-        CartelWatch x = new CartelWatch();
+        Watched x = new Watched();
         x.setMark(1);
-        nearTender(x, 3, 5);
-        nearTender(x, 3, 5);
-        nearTender(x, 3, 6);
+        x.near(3, 5);
+        x.near(3, 5);
+        x.near(3, 6);
         x.file(5, 3);
         x.file(3, 6);
         Checks.same("a matter is new", x.tell(0, 3, 1), true);
@@ -151,7 +138,7 @@ public final class FilesTest {
         Checks.same("told by the other", x.tell(0, 5, 1), false);
         Checks.same("none of the matters", x.tell(0, 5, 2), false);
         Checks.same("another file knows nothing of it", x.tell(1, 3, 2), true);
-        int later = nearTender(x, 5, 3);
+        int later = x.near(5, 3);
         Checks.same("a tender that came later", x.tell(0, 5, later), false);
         int open = x.open();
         Checks.same("an open tender", x.tell(0, 5, open), false);
@@ -159,44 +146,44 @@ public final class FilesTest {
     }
 
     private static void promise15TellRefused() {
-        CartelWatch x = watchWithMatters(2);
-        Checks.refusedIndex(x, "tell(-1, 0, 0)", () -> x.tell(-1, 0, 0) ? 1 : 0);
-        Checks.refusedIndex(x, "tell(1, 7, 0)", () -> x.tell(1, 7, 0) ? 1 : 0);
-        Checks.refusedIndex(x, "tell(0, 0, -1)", () -> x.tell(0, 0, -1) ? 1 : 0);
-        Checks.refusedIndex(x, "tell(0, 2, 2)", () -> x.tell(0, 2, 2) ? 1 : 0);
-        Checks.refusedIndex(x, "tell(0, 0, 30)", () -> x.tell(0, 0, 30) ? 1 : 0);
-        Checks.refusedArgument(x, "tell(0, 2, 0)", () -> x.tell(0, 2, 0) ? 1 : 0);
-        Checks.refusedArgument(x, "tell(0, -1, 0)", () -> x.tell(0, -1, 0) ? 1 : 0);
-        Checks.refusedArgument(x, "tell(0, 7, 0)", () -> x.tell(0, 7, 0) ? 1 : 0);
+        Watched x = watchWithMatters(2);
+        x.refusedIndex("tell(-1, 0, 0)", () -> x.tell(-1, 0, 0) ? 1 : 0);
+        x.refusedIndex("tell(1, 7, 0)", () -> x.tell(1, 7, 0) ? 1 : 0);
+        x.refusedIndex("tell(0, 0, -1)", () -> x.tell(0, 0, -1) ? 1 : 0);
+        x.refusedIndex("tell(0, 2, 2)", () -> x.tell(0, 2, 2) ? 1 : 0);
+        x.refusedIndex("tell(0, 0, 30)", () -> x.tell(0, 0, 30) ? 1 : 0);
+        x.refusedArgument("tell(0, 2, 0)", () -> x.tell(0, 2, 0) ? 1 : 0);
+        x.refusedArgument("tell(0, -1, 0)", () -> x.tell(0, -1, 0) ? 1 : 0);
+        x.refusedArgument("tell(0, 7, 0)", () -> x.tell(0, 7, 0) ? 1 : 0);
         Checks.same("nothing was told", x.tell(0, 1, 0), true);
         x.close(0);
-        Checks.refusedState(x, "tell in a closed file", () -> x.tell(0, 0, 1) ? 1 : 0);
-        Checks.refusedArgument(x, "tell(0, 2, 1), closed", () -> x.tell(0, 2, 1) ? 1 : 0);
-        Checks.refusedIndex(x, "tell(0, 2, 2), closed", () -> x.tell(0, 2, 2) ? 1 : 0);
+        x.refusedState("tell in a closed file", () -> x.tell(0, 0, 1) ? 1 : 0);
+        x.refusedArgument("tell(0, 2, 1), closed", () -> x.tell(0, 2, 1) ? 1 : 0);
+        x.refusedIndex("tell(0, 2, 2), closed", () -> x.tell(0, 2, 2) ? 1 : 0);
     }
 
     private static void promise16Compensate() {
-        CartelWatch x = new CartelWatch();
+        Watched x = new Watched();
         Checks.same("compensate(0, 1)", x.compensate(0, 1), 1);
         Checks.same("compensate(0, 100000)", x.compensate(0, 100000), 100001);
         Checks.same("compensate(6, 5)", x.compensate(6, 5), 5);
-        Checks.refusedArgument(x, "compensate(-1, 1)", () -> x.compensate(-1, 1));
-        Checks.refusedArgument(x, "compensate(7, 1)", () -> x.compensate(7, 1));
-        Checks.refusedArgument(x, "compensate(0, 0)", () -> x.compensate(0, 0));
-        Checks.refusedArgument(x, "compensate(0, -1)", () -> x.compensate(0, -1));
-        Checks.refusedArgument(x, "compensate(0, 100001)", () -> x.compensate(0, 100001));
+        x.refusedArgument("compensate(-1, 1)", () -> x.compensate(-1, 1));
+        x.refusedArgument("compensate(7, 1)", () -> x.compensate(7, 1));
+        x.refusedArgument("compensate(0, 0)", () -> x.compensate(0, 0));
+        x.refusedArgument("compensate(0, -1)", () -> x.compensate(0, -1));
+        x.refusedArgument("compensate(0, 100001)", () -> x.compensate(0, 100001));
         Checks.same("a refused payment is not counted", x.compensate(0, 9), 100010);
-        CartelWatch many = new CartelWatch();
+        Watched many = new Watched();
         for (int call = 1; call <= 500; call++) {
             Checks.same("payment " + call, many.compensate(3, 100000), 100000L * call);
         }
     }
 
     private static void promise17CloseWithoutTelling() {
-        CartelWatch x = new CartelWatch();
+        Watched x = new Watched();
         x.setMark(1);
-        nearTender(x, 0, 1, 1019);
-        nearTender(x, 1, 0, 509);
+        x.contest(0, 1019, 1, 1020);
+        x.contest(1, 509, 0, 510);
         x.file(0, 1);
         Checks.same("close", x.close(0), 101 + 50);
         Checks.same("a tenth, rounded down", x.fine(0, 0), 101);
@@ -205,10 +192,10 @@ public final class FilesTest {
 
     /** Closes a file of that many matters after the first teller has told some; its turnover is 1000 each and 30. */
     private static void firstTeller(int matters, int tellings, int due) {
-        CartelWatch x = new CartelWatch();
+        Watched x = new Watched();
         x.setMark(1);
         for (int tender = 0; tender < matters; tender++) {
-            nearTender(x, 0, 1);
+            x.near(0, 1);
         }
         int extra = x.open();
         x.bid(extra, 0, 30);
@@ -239,11 +226,11 @@ public final class FilesTest {
     }
 
     private static void promise17OtherByQuarter() {
-        CartelWatch x = new CartelWatch();
+        Watched x = new Watched();
         x.setMark(1);
-        nearTender(x, 1, 0, 1039);
-        nearTender(x, 1, 0, 30);
-        nearTender(x, 0, 1, 1000);
+        x.contest(1, 1039, 0, 1040);
+        x.contest(1, 30, 0, 31);
+        x.contest(0, 1000, 1, 1001);
         x.file(0, 1);
         Checks.same("the near ones are the matters", x.matters(0), 3);
         x.tell(0, 0, 0);
@@ -252,50 +239,50 @@ public final class FilesTest {
         Checks.same("close", x.close(0), 50 + 80);
         Checks.same("the first teller pays half", x.fine(0, 0), 50);
         Checks.same("106 less a quarter, rounded down", x.fine(0, 1), 80);
-        CartelWatch silent = watchWithMatters(4);
+        Watched silent = watchWithMatters(4);
         silent.tell(0, 1, 0);
         silent.tell(0, 0, 0);
         Checks.same("a telling that is not new is no leniency", silent.close(0), 400);
     }
 
     private static void promise17TurnoverWhenClosed() {
-        CartelWatch x = watchWithMatters(1);
-        nearTender(x, 0, 2, 5000);
+        Watched x = watchWithMatters(1);
+        x.contest(0, 5000, 2, 5001);
         x.passOn(1, 1, 500);
         Checks.same("turnover as it is when closed", x.close(0), 550 + 50);
-        nearTender(x, 0, 2, 5000);
+        x.contest(0, 5000, 2, 5001);
         x.passOn(0, 1, 1000);
         Checks.same("the fine stays", x.fine(0, 0), 550);
         Checks.same("the fine of the other stays", x.fine(0, 1), 50);
     }
 
     private static void promise17CloseRefused() {
-        CartelWatch x = watchWithMatters(1);
-        Checks.refusedIndex(x, "close(-1)", () -> x.close(-1));
-        Checks.refusedIndex(x, "close(1)", () -> x.close(1));
-        Checks.refusedIndex(x, "close(20)", () -> x.close(20));
+        Watched x = watchWithMatters(1);
+        x.refusedIndex("close(-1)", () -> x.close(-1));
+        x.refusedIndex("close(1)", () -> x.close(1));
+        x.refusedIndex("close(20)", () -> x.close(20));
         x.compensate(0, 60);
         Checks.same("close", x.close(0), 40);
         x.compensate(0, 10);
-        Checks.refusedState(x, "close twice", () -> x.close(0));
+        x.refusedState("close twice", () -> x.close(0));
         Checks.same("nothing was taken again", x.compensate(0, 1), 11);
     }
 
     private static void promise18Fine() {
-        CartelWatch x = watchWithMatters(2);
+        Watched x = watchWithMatters(2);
         Checks.same("no fine before the file is closed", x.fine(0, 0), 0);
-        Checks.refusedIndex(x, "fine(-1, 0)", () -> x.fine(-1, 0));
-        Checks.refusedIndex(x, "fine(1, 7)", () -> x.fine(1, 7));
-        Checks.refusedArgument(x, "fine(0, 2)", () -> x.fine(0, 2));
-        Checks.refusedArgument(x, "fine(0, -1)", () -> x.fine(0, -1));
-        Checks.refusedArgument(x, "fine(0, 7)", () -> x.fine(0, 7));
+        x.refusedIndex("fine(-1, 0)", () -> x.fine(-1, 0));
+        x.refusedIndex("fine(1, 7)", () -> x.fine(1, 7));
+        x.refusedArgument("fine(0, 2)", () -> x.fine(0, 2));
+        x.refusedArgument("fine(0, -1)", () -> x.fine(0, -1));
+        x.refusedArgument("fine(0, 7)", () -> x.fine(0, 7));
         x.close(0);
         Checks.same("the fine", x.fine(0, 0), 200);
-        Checks.refusedArgument(x, "fine(0, 2), closed", () -> x.fine(0, 2));
+        x.refusedArgument("fine(0, 2), closed", () -> x.fine(0, 2));
     }
 
     private static void promise18FineLowered() {
-        CartelWatch x = watchWithMatters(2);
+        Watched x = watchWithMatters(2);
         x.compensate(0, 150);
         x.compensate(1, 70);
         x.compensate(2, 1000);
@@ -310,11 +297,11 @@ public final class FilesTest {
     }
 
     private static void promise18PaidOnceOnly() {
-        CartelWatch x = new CartelWatch();
+        Watched x = new Watched();
         x.setMark(1);
-        nearTender(x, 0, 1, 1000);
-        nearTender(x, 0, 2, 1000);
-        nearTender(x, 0, 3, 1000);
+        x.contest(0, 1000, 1, 1001);
+        x.contest(0, 1000, 2, 1001);
+        x.contest(0, 1000, 3, 1001);
         x.file(0, 1);
         x.file(0, 2);
         x.file(0, 3);
@@ -324,11 +311,11 @@ public final class FilesTest {
         Checks.same("nothing is left for the last", x.close(2), 300);
         Checks.same("fine of the first closed", x.fine(1, 0), 0);
         Checks.same("fine of the second closed", x.fine(0, 0), 150);
-        CartelWatch lenient = watchWithMatters(4);
+        Watched lenient = watchWithMatters(4);
         lenient.tell(0, 0, 0);
         lenient.compensate(0, 150);
         Checks.same("leniency comes before the payment", lenient.close(0), 50);
-        CartelWatch spared = watchWithMatters(1);
+        Watched spared = watchWithMatters(1);
         spared.tell(0, 0, 0);
         spared.compensate(0, 30);
         Checks.same("a teller that pays nothing", spared.close(0), 0);
@@ -336,8 +323,8 @@ public final class FilesTest {
     }
 
     private static void promise19FirstTeller() {
-        CartelWatch x = watchWithMatters(2);
-        int other = nearTender(x, 2, 3);
+        Watched x = watchWithMatters(2);
+        int other = x.near(2, 3);
         Checks.same("nobody at first", x.firstTeller(0), -1);
         x.tell(0, 0, other);
         Checks.same("a telling that is not new makes no first teller", x.firstTeller(0), -1);
@@ -349,8 +336,8 @@ public final class FilesTest {
         Checks.same("it stays so in a closed file", x.firstTeller(0), 1);
         x.file(2, 3);
         Checks.same("each file has its own", x.firstTeller(1), -1);
-        Checks.refusedIndex(x, "firstTeller(-1)", () -> x.firstTeller(-1));
-        Checks.refusedIndex(x, "firstTeller(2)", () -> x.firstTeller(2));
-        Checks.refusedIndex(x, "firstTeller(20)", () -> x.firstTeller(20));
+        x.refusedIndex("firstTeller(-1)", () -> x.firstTeller(-1));
+        x.refusedIndex("firstTeller(2)", () -> x.firstTeller(2));
+        x.refusedIndex("firstTeller(20)", () -> x.firstTeller(20));
     }
 }

@@ -63,6 +63,7 @@ public final class ModelTest {
         private final int bidders;
         private final int sumFrom;
         private final int sumRange;
+        private int asked = 0;
 
         Run(int number) {
             this.number = number;
@@ -77,50 +78,52 @@ public final class ModelTest {
                 int mark = 1 + random.nextInt(6);
                 ask("setMark", () -> watch.setMark(mark), () -> model.setMark(mark));
             }
-            for (int call = 0; call < CALLS; call++) {
+            while (asked < CALLS) {
                 one();
             }
         }
 
-        private void ask(String name, LongSupplier asked, LongSupplier due) {
-            String got = Checks.answer(asked);
+        private void ask(String name, LongSupplier put, LongSupplier due) {
+            asked++;
+            String got = Checks.answer(put);
             Checks.same("run " + number + ": " + name, got, Checks.answer(due));
             String kind = got.startsWith("throws.") ? got.substring(7) : "ok";
             seen.merge(name.split("\\(")[0] + " " + kind, 1, Integer::sum);
         }
 
+        /** The least or the greatest int, or any. */
+        private int far() {
+            int pick = random.nextInt(4);
+            return pick == 0 ? Integer.MIN_VALUE : pick == 1 ? Integer.MAX_VALUE : random.nextInt();
+        }
+
         private int bidder() {
-            int pick = random.nextInt(60);
-            return pick == 0 ? -1 : pick == 1 ? 7 : random.nextInt(bidders);
+            int pick = random.nextInt(90);
+            return pick == 0 ? -1 : pick == 1 ? 7 : pick == 2 ? far() : random.nextInt(bidders);
         }
 
         private int tender() {
             int count = model.tenders.size();
-            int pick = random.nextInt(60);
-            if (pick == 0) {
-                return -1;
-            }
-            if (pick == 1) {
-                return count;
+            int pick = random.nextInt(90);
+            if (pick < 3) {
+                return pick == 0 ? -1 : pick == 1 ? count : far();
             }
             int back = random.nextInt(3) > 0 ? random.nextInt(4) : random.nextInt(31);
             return Math.max(0, count - 1 - back);
         }
 
         private int file() {
-            int pick = random.nextInt(40);
-            return pick == 0 ? -1 : pick == 1 ? model.files.size() : random.nextInt(Math.max(1, model.files.size()));
+            int count = model.files.size();
+            int pick = random.nextInt(60);
+            return pick == 0 ? -1 : pick == 1 ? count : pick == 2 ? far() : random.nextInt(Math.max(1, count));
         }
 
         private int sum() {
-            int pick = random.nextInt(80);
-            if (pick == 0) {
-                return 0;
+            int pick = random.nextInt(120);
+            if (pick < 3) {
+                return pick == 0 ? 0 : pick == 1 ? 100001 : far();
             }
-            if (pick == 1) {
-                return 100001;
-            }
-            return pick < 8 ? SUMS[random.nextInt(SUMS.length)] : sumFrom + random.nextInt(sumRange);
+            return pick < 12 ? SUMS[random.nextInt(SUMS.length)] : sumFrom + random.nextInt(sumRange);
         }
 
         private void one() {

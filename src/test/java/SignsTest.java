@@ -15,24 +15,15 @@ public final class SignsTest {
         Checks.end();
     }
 
-    /** Opens and awards a tender in which two bid. */
-    private static int contest(CartelWatch x, int one, int sumOfOne, int other, int sumOfOther) {
-        int tender = x.open();
-        x.bid(tender, one, sumOfOne);
-        x.bid(tender, other, sumOfOther);
-        x.award(tender);
-        return tender;
-    }
-
     private static void promise9Suspicion() {
-        CartelWatch x = new CartelWatch();
-        contest(x, 0, 1000, 1, 1050);
+        Watched x = new Watched();
+        x.contest(0, 1000, 1, 1050);
         Checks.same("suspicion(0, 1)", x.suspicion(0, 1), 2);
-        contest(x, 1, 1000, 0, 1050);
+        x.contest(1, 1000, 0, 1050);
         Checks.same("suspicion(0, 1) after a turn", x.suspicion(0, 1), 8);
         Checks.same("suspicion(1, 0) is the same", x.suspicion(1, 0), 8);
         Checks.same("suspicion of others", x.suspicion(0, 2), 0);
-        int third = contest(x, 5, 1000, 6, 2000);
+        int third = x.contest(5, 1000, 6, 2000);
         x.passOn(third, 6, 1);
         Checks.same("suspicion(5, 6)", x.suspicion(6, 5), 3);
         Checks.same("suspicion(0, 1) without a change", x.suspicion(0, 1), 8);
@@ -43,19 +34,19 @@ public final class SignsTest {
     }
 
     private static void promise9SuspicionRefused() {
-        CartelWatch x = new CartelWatch();
-        contest(x, 0, 1000, 1, 1050);
-        Checks.refusedArgument(x, "suspicion(-1, 0)", () -> x.suspicion(-1, 0));
-        Checks.refusedArgument(x, "suspicion(7, 0)", () -> x.suspicion(7, 0));
-        Checks.refusedArgument(x, "suspicion(0, -1)", () -> x.suspicion(0, -1));
-        Checks.refusedArgument(x, "suspicion(0, 7)", () -> x.suspicion(0, 7));
-        Checks.refusedArgument(x, "suspicion(0, 0)", () -> x.suspicion(0, 0));
-        Checks.refusedArgument(x, "suspicion(6, 6)", () -> x.suspicion(6, 6));
+        Watched x = new Watched();
+        x.contest(0, 1000, 1, 1050);
+        x.refusedArgument("suspicion(-1, 0)", () -> x.suspicion(-1, 0));
+        x.refusedArgument("suspicion(7, 0)", () -> x.suspicion(7, 0));
+        x.refusedArgument("suspicion(0, -1)", () -> x.suspicion(0, -1));
+        x.refusedArgument("suspicion(0, 7)", () -> x.suspicion(0, 7));
+        x.refusedArgument("suspicion(0, 0)", () -> x.suspicion(0, 0));
+        x.refusedArgument("suspicion(6, 6)", () -> x.suspicion(6, 6));
     }
 
     private static void near(int winning, int above, int due) {
-        CartelWatch x = new CartelWatch();
-        int tender = contest(x, 3, winning, 5, winning + above);
+        Watched x = new Watched();
+        int tender = x.contest(3, winning, 5, winning + above);
         Checks.same("a bid " + above + " above " + winning, x.sign(tender, 3, 5), due);
         Checks.same("the same for the pair turned round", x.sign(tender, 5, 3), due);
     }
@@ -74,7 +65,7 @@ public final class SignsTest {
         near(95238, 4761, 2);
         near(95238, 4762, 0);
         near(99999, 1, 2);
-        CartelWatch x = new CartelWatch();
+        Watched x = new Watched();
         int tender = x.open();
         x.bid(tender, 0, 1000);
         x.bid(tender, 1, 1010);
@@ -88,14 +79,14 @@ public final class SignsTest {
     }
 
     private static void promise10PassedWork() {
-        CartelWatch x = new CartelWatch();
-        int stands = contest(x, 0, 1000, 1, 5000);
+        Watched x = new Watched();
+        int stands = x.contest(0, 1000, 1, 5000);
         Checks.same("a far bid", x.sign(stands, 0, 1), 0);
         x.passOn(stands, 1, 10);
         Checks.same("passed on to one that stands", x.sign(stands, 0, 1), 3);
         Checks.same("another pair of the winner", x.sign(stands, 0, 2), 0);
         Checks.same("the pair without the winner", x.sign(stands, 1, 2), 0);
-        int absent = contest(x, 0, 1000, 2, 5000);
+        int absent = x.contest(0, 1000, 2, 5000);
         x.passOn(absent, 3, 10);
         Checks.same("passed on to one without a bid", x.sign(absent, 0, 3), 0);
         Checks.same("the one to whom it was not passed on", x.sign(absent, 0, 2), 0);
@@ -109,7 +100,7 @@ public final class SignsTest {
     }
 
     private static void promise10WithdrawnBid() {
-        CartelWatch x = new CartelWatch();
+        Watched x = new Watched();
         int tender = x.open();
         x.bid(tender, 6, 1000);
         x.bid(tender, 0, 1010);
@@ -128,12 +119,12 @@ public final class SignsTest {
     }
 
     private static void promise10Turn() {
-        CartelWatch x = new CartelWatch();
-        int first = contest(x, 0, 1000, 1, 2000);
+        Watched x = new Watched();
+        int first = x.contest(0, 1000, 1, 2000);
         Checks.same("no turn before the first", x.sign(first, 0, 1), 0);
-        int again = contest(x, 0, 1000, 1, 2000);
+        int again = x.contest(0, 1000, 1, 2000);
         Checks.same("the same winner is no turn", x.sign(again, 0, 1), 0);
-        int turn = contest(x, 0, 2000, 1, 1000);
+        int turn = x.contest(0, 2000, 1, 1000);
         Checks.same("a turn", x.sign(turn, 0, 1), 4);
         int alone = x.open();
         x.bid(alone, 0, 1000);
@@ -145,23 +136,23 @@ public final class SignsTest {
         x.withdraw(withdrawn, 1);
         x.award(withdrawn);
         Checks.same("no turn if one has withdrawn", x.sign(withdrawn, 0, 1), 1);
-        int back = contest(x, 0, 1000, 1, 2000);
+        int back = x.contest(0, 1000, 1, 2000);
         Checks.same("tenders in which not both stand are passed over", x.sign(back, 0, 1), 4);
         int third = x.open();
         x.bid(third, 0, 1000);
         x.bid(third, 1, 1000);
         x.bid(third, 2, 500);
         x.award(third);
-        int behind = contest(x, 0, 2000, 1, 1000);
+        int behind = x.contest(0, 2000, 1, 1000);
         Checks.same("a third one won the last in which both stood", x.sign(behind, 0, 1), 0);
     }
 
     private static void promise10TurnLooksBack() {
-        CartelWatch x = new CartelWatch();
+        Watched x = new Watched();
         int low = x.open();
         x.bid(low, 0, 1000);
         x.bid(low, 1, 2000);
-        int high = contest(x, 0, 2000, 1, 1000);
+        int high = x.contest(0, 2000, 1, 1000);
         Checks.same("a lower tender that is open does not count", x.sign(high, 0, 1), 0);
         x.award(low);
         Checks.same("it counts as soon as it is awarded", x.sign(high, 0, 1), 4);
@@ -170,57 +161,57 @@ public final class SignsTest {
     }
 
     private static void promise10AllAddedUp() {
-        CartelWatch x = new CartelWatch();
-        contest(x, 0, 1000, 1, 2000);
-        int tender = contest(x, 0, 1050, 1, 1000);
+        Watched x = new Watched();
+        x.contest(0, 1000, 1, 2000);
+        int tender = x.contest(0, 1050, 1, 1000);
         x.passOn(tender, 0, 1000);
         Checks.same("near, passed on and a turn", x.sign(tender, 1, 0), 9);
         Checks.same("suspicion", x.suspicion(1, 0), 9);
     }
 
     private static void promise10SignRefused() {
-        CartelWatch x = new CartelWatch();
-        contest(x, 0, 1000, 1, 1050);
-        Checks.refusedIndex(x, "sign(-1, 0, 1)", () -> x.sign(-1, 0, 1));
-        Checks.refusedIndex(x, "sign(1, 0, 1)", () -> x.sign(1, 0, 1));
-        Checks.refusedIndex(x, "sign(1, 7, 7)", () -> x.sign(1, 7, 7));
-        Checks.refusedIndex(x, "sign(30, 0, 1)", () -> x.sign(30, 0, 1));
-        Checks.refusedArgument(x, "sign(0, -1, 1)", () -> x.sign(0, -1, 1));
-        Checks.refusedArgument(x, "sign(0, 7, 1)", () -> x.sign(0, 7, 1));
-        Checks.refusedArgument(x, "sign(0, 1, -1)", () -> x.sign(0, 1, -1));
-        Checks.refusedArgument(x, "sign(0, 1, 7)", () -> x.sign(0, 1, 7));
-        Checks.refusedArgument(x, "sign(0, 1, 1)", () -> x.sign(0, 1, 1));
+        Watched x = new Watched();
+        x.contest(0, 1000, 1, 1050);
+        x.refusedIndex("sign(-1, 0, 1)", () -> x.sign(-1, 0, 1));
+        x.refusedIndex("sign(1, 0, 1)", () -> x.sign(1, 0, 1));
+        x.refusedIndex("sign(1, 7, 7)", () -> x.sign(1, 7, 7));
+        x.refusedIndex("sign(30, 0, 1)", () -> x.sign(30, 0, 1));
+        x.refusedArgument("sign(0, -1, 1)", () -> x.sign(0, -1, 1));
+        x.refusedArgument("sign(0, 7, 1)", () -> x.sign(0, 7, 1));
+        x.refusedArgument("sign(0, 1, -1)", () -> x.sign(0, 1, -1));
+        x.refusedArgument("sign(0, 1, 7)", () -> x.sign(0, 1, 7));
+        x.refusedArgument("sign(0, 1, 1)", () -> x.sign(0, 1, 1));
     }
 
     private static void promise11SetMark() {
-        CartelWatch x = new CartelWatch();
+        Watched x = new Watched();
         Checks.same("setMark(1)", x.setMark(1), 10);
         Checks.same("setMark(1000)", x.setMark(1000), 1);
-        Checks.refusedArgument(x, "setMark(0)", () -> x.setMark(0));
-        Checks.refusedArgument(x, "setMark(1001)", () -> x.setMark(1001));
-        Checks.refusedArgument(x, "setMark(-1)", () -> x.setMark(-1));
+        x.refusedArgument("setMark(0)", () -> x.setMark(0));
+        x.refusedArgument("setMark(1001)", () -> x.setMark(1001));
+        x.refusedArgument("setMark(-1)", () -> x.setMark(-1));
         Checks.same("setMark(7)", x.setMark(7), 1000);
         Checks.same("setMark(7) again", x.setMark(7), 7);
     }
 
     private static void promise12Worst() {
-        CartelWatch x = new CartelWatch();
+        Watched x = new Watched();
         x.open();
         x.award(0);
         Checks.same("no pair has any", x.worst(), -1);
-        contest(x, 6, 1000, 5, 1050);
+        x.contest(6, 1000, 5, 1050);
         Checks.same("the last pair", x.worst(), 56);
-        contest(x, 4, 1000, 2, 1050);
+        x.contest(4, 1000, 2, 1050);
         Checks.same("of equal ones the least", x.worst(), 24);
-        contest(x, 5, 2000, 6, 1000);
+        x.contest(5, 2000, 6, 1000);
         Checks.same("turn of nobody", x.worst(), 24);
-        contest(x, 5, 1000, 6, 2000);
+        x.contest(5, 1000, 6, 2000);
         Checks.same("the greatest", x.worst(), 56);
-        contest(x, 0, 1000, 1, 1050);
+        x.contest(0, 1000, 1, 1050);
         Checks.same("a lower pair with less", x.worst(), 56);
-        contest(x, 1, 1000, 0, 2000);
+        x.contest(1, 1000, 0, 2000);
         Checks.same("a lower pair with as much", x.worst(), 1);
-        contest(x, 2, 1000, 4, 1001);
+        x.contest(2, 1000, 4, 1001);
         Checks.same("another pair has more then", x.worst(), 24);
     }
 }

@@ -18,10 +18,10 @@ public final class TendersTest {
     }
 
     private static void promise1NewObject() {
-        CartelWatch x = new CartelWatch();
-        Checks.refusedIndex(x, "award(0) without tenders", () -> x.award(0));
-        Checks.refusedIndex(x, "sign(0, 0, 1) without tenders", () -> x.sign(0, 0, 1));
-        Checks.refusedIndex(x, "matters(0) without files", () -> x.matters(0));
+        Watched x = new Watched();
+        x.refusedIndex("award(0) without tenders", () -> x.award(0));
+        x.refusedIndex("sign(0, 0, 1) without tenders", () -> x.sign(0, 0, 1));
+        x.refusedIndex("matters(0) without files", () -> x.matters(0));
         for (int bidder = 0; bidder < 7; bidder++) {
             Checks.same("turnover of a new watch", x.turnover(bidder), 0);
             Checks.same("won of a new watch", x.won(bidder), 0);
@@ -35,26 +35,26 @@ public final class TendersTest {
         Checks.same("the first mark", x.setMark(10), 10);
         Checks.same("nothing is paid at first", x.compensate(0, 1), 1);
         Checks.same("the first tender", x.open(), 0);
-        CartelWatch second = new CartelWatch();
+        Watched second = new Watched();
         Checks.same("the first tender of another watch", second.open(), 0);
     }
 
     private static void promise2Open() {
-        CartelWatch x = new CartelWatch();
+        Watched x = new Watched();
         for (int number = 0; number < 30; number++) {
             int missing = number;
-            Checks.refusedIndex(x, "award of a tender that is not opened yet", () -> x.award(missing));
+            x.refusedIndex("award of a tender that is not opened yet", () -> x.award(missing));
             Checks.same("open", x.open(), number);
         }
-        Checks.refusedState(x, "open of the 31st", x::open);
+        x.refusedState("open of the 31st", x::open);
         Checks.same("award of a tender frees no place", x.award(29), -1);
-        Checks.refusedState(x, "open after an award", x::open);
-        Checks.refusedIndex(x, "award(30)", () -> x.award(30));
+        x.refusedState("open after an award", x::open);
+        x.refusedIndex("award(30)", () -> x.award(30));
         Checks.same("the tenders are open", x.bid(0, 0, 1), 1);
     }
 
     private static void promise3Bid() {
-        CartelWatch x = new CartelWatch();
+        Watched x = new Watched();
         x.open();
         x.open();
         Checks.same("bid(0, 0, 1)", x.bid(0, 0, 1), 1);
@@ -68,43 +68,43 @@ public final class TendersTest {
     }
 
     private static void promise3BidRefused() {
-        CartelWatch x = new CartelWatch();
+        Watched x = new Watched();
         x.open();
         x.open();
         x.open();
-        Checks.refusedIndex(x, "bid(-1, 0, 1)", () -> x.bid(-1, 0, 1));
-        Checks.refusedIndex(x, "bid(3, 0, 1)", () -> x.bid(3, 0, 1));
-        Checks.refusedArgument(x, "bid(0, -1, 1)", () -> x.bid(0, -1, 1));
-        Checks.refusedArgument(x, "bid(0, 7, 1)", () -> x.bid(0, 7, 1));
-        Checks.refusedArgument(x, "bid(0, 0, 0)", () -> x.bid(0, 0, 0));
-        Checks.refusedArgument(x, "bid(0, 0, 100001)", () -> x.bid(0, 0, 100001));
+        x.refusedIndex("bid(-1, 0, 1)", () -> x.bid(-1, 0, 1));
+        x.refusedIndex("bid(3, 0, 1)", () -> x.bid(3, 0, 1));
+        x.refusedArgument("bid(0, -1, 1)", () -> x.bid(0, -1, 1));
+        x.refusedArgument("bid(0, 7, 1)", () -> x.bid(0, 7, 1));
+        x.refusedArgument("bid(0, 0, 0)", () -> x.bid(0, 0, 0));
+        x.refusedArgument("bid(0, 0, 100001)", () -> x.bid(0, 0, 100001));
         Checks.same("nothing was bid", x.bid(0, 0, 50), 1);
-        Checks.refusedState(x, "a second bid", () -> x.bid(0, 0, 40));
+        x.refusedState("a second bid", () -> x.bid(0, 0, 40));
         Checks.same("the bid stays as it was", x.withdraw(0, 0), 50);
-        Checks.refusedState(x, "a bid after a withdrawn one", () -> x.bid(0, 0, 40));
+        x.refusedState("a bid after a withdrawn one", () -> x.bid(0, 0, 40));
         Checks.same("the withdrawn bid does not stand", x.award(0), -1);
-        Checks.refusedState(x, "a bid for a void tender", () -> x.bid(0, 1, 40));
+        x.refusedState("a bid for a void tender", () -> x.bid(0, 1, 40));
         x.bid(1, 1, 40);
         x.award(1);
-        Checks.refusedState(x, "a bid for an awarded tender", () -> x.bid(1, 2, 30));
+        x.refusedState("a bid for an awarded tender", () -> x.bid(1, 2, 30));
         Checks.same("the award stays", x.won(1), 1);
     }
 
     private static void promise3BidOrderOfExceptions() {
-        CartelWatch x = new CartelWatch();
+        Watched x = new Watched();
         x.open();
         x.award(0);
-        Checks.refusedIndex(x, "bid(1, 7, 0)", () -> x.bid(1, 7, 0));
-        Checks.refusedArgument(x, "bid(0, 7, 1) of a void tender", () -> x.bid(0, 7, 1));
-        Checks.refusedArgument(x, "bid(0, 0, 0) of a void tender", () -> x.bid(0, 0, 0));
-        Checks.refusedIndex(x, "bid at the least int", () -> x.bid(Integer.MIN_VALUE, 0, 1));
-        Checks.refusedIndex(x, "bid at the greatest int", () -> x.bid(Integer.MAX_VALUE, 0, 1));
-        Checks.refusedArgument(x, "a bid of the least int", () -> x.bid(0, 0, Integer.MIN_VALUE));
-        Checks.refusedArgument(x, "a bid of the greatest int", () -> x.bid(0, 0, Integer.MAX_VALUE));
+        x.refusedIndex("bid(1, 7, 0)", () -> x.bid(1, 7, 0));
+        x.refusedArgument("bid(0, 7, 1) of a void tender", () -> x.bid(0, 7, 1));
+        x.refusedArgument("bid(0, 0, 0) of a void tender", () -> x.bid(0, 0, 0));
+        x.refusedIndex("bid at the least int", () -> x.bid(Integer.MIN_VALUE, 0, 1));
+        x.refusedIndex("bid at the greatest int", () -> x.bid(Integer.MAX_VALUE, 0, 1));
+        x.refusedArgument("a bid of the least int", () -> x.bid(0, 0, Integer.MIN_VALUE));
+        x.refusedArgument("a bid of the greatest int", () -> x.bid(0, 0, Integer.MAX_VALUE));
     }
 
     private static void promise4Withdraw() {
-        CartelWatch x = new CartelWatch();
+        Watched x = new Watched();
         x.open();
         x.bid(0, 0, 1);
         x.bid(0, 3, 300);
@@ -115,27 +115,27 @@ public final class TendersTest {
     }
 
     private static void promise4WithdrawRefused() {
-        CartelWatch x = new CartelWatch();
+        Watched x = new Watched();
         x.open();
         x.open();
         x.bid(0, 0, 10);
-        Checks.refusedIndex(x, "withdraw(-1, 0)", () -> x.withdraw(-1, 0));
-        Checks.refusedIndex(x, "withdraw(2, 7)", () -> x.withdraw(2, 7));
-        Checks.refusedArgument(x, "withdraw(0, -1)", () -> x.withdraw(0, -1));
-        Checks.refusedArgument(x, "withdraw(0, 7)", () -> x.withdraw(0, 7));
-        Checks.refusedState(x, "withdraw without a bid", () -> x.withdraw(0, 1));
-        Checks.refusedState(x, "withdraw in a tender without bids", () -> x.withdraw(1, 0));
+        x.refusedIndex("withdraw(-1, 0)", () -> x.withdraw(-1, 0));
+        x.refusedIndex("withdraw(2, 7)", () -> x.withdraw(2, 7));
+        x.refusedArgument("withdraw(0, -1)", () -> x.withdraw(0, -1));
+        x.refusedArgument("withdraw(0, 7)", () -> x.withdraw(0, 7));
+        x.refusedState("withdraw without a bid", () -> x.withdraw(0, 1));
+        x.refusedState("withdraw in a tender without bids", () -> x.withdraw(1, 0));
         Checks.same("one may still bid after a refused withdrawal", x.bid(0, 1, 20), 2);
         x.withdraw(0, 1);
-        Checks.refusedState(x, "withdraw twice", () -> x.withdraw(0, 1));
+        x.refusedState("withdraw twice", () -> x.withdraw(0, 1));
         Checks.same("the other bid still stands", x.award(0), 0);
-        Checks.refusedState(x, "withdraw after the award", () -> x.withdraw(0, 0));
-        Checks.refusedArgument(x, "withdraw(0, 7) after the award", () -> x.withdraw(0, 7));
+        x.refusedState("withdraw after the award", () -> x.withdraw(0, 0));
+        x.refusedArgument("withdraw(0, 7) after the award", () -> x.withdraw(0, 7));
         Checks.same("the winner stays", x.won(0), 1);
     }
 
     private static void promise5Award() {
-        CartelWatch x = new CartelWatch();
+        Watched x = new Watched();
         for (int number = 0; number < 5; number++) {
             x.open();
         }
@@ -158,21 +158,21 @@ public final class TendersTest {
     }
 
     private static void promise5AwardRefused() {
-        CartelWatch x = new CartelWatch();
+        Watched x = new Watched();
         x.open();
         x.open();
-        Checks.refusedIndex(x, "award(-1)", () -> x.award(-1));
-        Checks.refusedIndex(x, "award(2)", () -> x.award(2));
+        x.refusedIndex("award(-1)", () -> x.award(-1));
+        x.refusedIndex("award(2)", () -> x.award(2));
         x.bid(0, 0, 5);
         x.award(0);
-        Checks.refusedState(x, "award of an awarded tender", () -> x.award(0));
+        x.refusedState("award of an awarded tender", () -> x.award(0));
         x.award(1);
-        Checks.refusedState(x, "award of a void tender", () -> x.award(1));
+        x.refusedState("award of a void tender", () -> x.award(1));
         Checks.same("the first award counts once", x.turnover(0), 5);
     }
 
     private static void promise6PassOn() {
-        CartelWatch x = new CartelWatch();
+        Watched x = new Watched();
         x.open();
         x.open();
         x.bid(0, 4, 900);
@@ -191,29 +191,29 @@ public final class TendersTest {
     }
 
     private static void promise6PassOnRefused() {
-        CartelWatch x = new CartelWatch();
+        Watched x = new Watched();
         x.open();
         x.open();
         x.bid(0, 2, 100);
-        Checks.refusedIndex(x, "passOn(-1, 0, 1)", () -> x.passOn(-1, 0, 1));
-        Checks.refusedIndex(x, "passOn(2, 7, 0)", () -> x.passOn(2, 7, 0));
-        Checks.refusedState(x, "passOn of an open tender", () -> x.passOn(0, 1, 1));
-        Checks.refusedState(x, "passOn(0, 7, 0) of an open tender", () -> x.passOn(0, 7, 0));
+        x.refusedIndex("passOn(-1, 0, 1)", () -> x.passOn(-1, 0, 1));
+        x.refusedIndex("passOn(2, 7, 0)", () -> x.passOn(2, 7, 0));
+        x.refusedState("passOn of an open tender", () -> x.passOn(0, 1, 1));
+        x.refusedState("passOn(0, 7, 0) of an open tender", () -> x.passOn(0, 7, 0));
         x.award(1);
-        Checks.refusedState(x, "passOn of a void tender", () -> x.passOn(1, 1, 1));
+        x.refusedState("passOn of a void tender", () -> x.passOn(1, 1, 1));
         x.award(0);
-        Checks.refusedArgument(x, "passOn(0, -1, 1)", () -> x.passOn(0, -1, 1));
-        Checks.refusedArgument(x, "passOn(0, 7, 1)", () -> x.passOn(0, 7, 1));
-        Checks.refusedArgument(x, "passOn to the winner", () -> x.passOn(0, 2, 1));
-        Checks.refusedArgument(x, "a part of 0", () -> x.passOn(0, 1, 0));
-        Checks.refusedArgument(x, "a part above the sum", () -> x.passOn(0, 1, 101));
+        x.refusedArgument("passOn(0, -1, 1)", () -> x.passOn(0, -1, 1));
+        x.refusedArgument("passOn(0, 7, 1)", () -> x.passOn(0, 7, 1));
+        x.refusedArgument("passOn to the winner", () -> x.passOn(0, 2, 1));
+        x.refusedArgument("a part of 0", () -> x.passOn(0, 1, 0));
+        x.refusedArgument("a part above the sum", () -> x.passOn(0, 1, 101));
         Checks.same("it was not passed on yet", x.passOn(0, 1, 100), 2);
-        Checks.refusedState(x, "passOn twice", () -> x.passOn(0, 3, 1));
-        Checks.refusedState(x, "passOn(0, 7, 0) of a passed tender", () -> x.passOn(0, 7, 0));
+        x.refusedState("passOn twice", () -> x.passOn(0, 3, 1));
+        x.refusedState("passOn(0, 7, 0) of a passed tender", () -> x.passOn(0, 7, 0));
     }
 
     private static void promise7Turnover() {
-        CartelWatch x = new CartelWatch();
+        Watched x = new Watched();
         x.open();
         x.bid(0, 6, 100000);
         Checks.same("an open tender is no turnover", x.turnover(6), 0);
@@ -235,12 +235,12 @@ public final class TendersTest {
             Checks.answer(() -> x.passOn(tender, 1, 100000));
         }
         Checks.same("never below 0", x.turnover(6), 60000 + 99997);
-        Checks.refusedArgument(x, "turnover(-1)", () -> x.turnover(-1));
-        Checks.refusedArgument(x, "turnover(7)", () -> x.turnover(7));
+        x.refusedArgument("turnover(-1)", () -> x.turnover(-1));
+        x.refusedArgument("turnover(7)", () -> x.turnover(7));
     }
 
     private static void promise8Won() {
-        CartelWatch x = new CartelWatch();
+        Watched x = new Watched();
         for (int number = 0; number < 4; number++) {
             x.open();
             x.bid(number, 0, 10);
@@ -255,7 +255,7 @@ public final class TendersTest {
         Checks.same("won(6)", x.won(6), 3);
         Checks.same("won(0)", x.won(0), 1);
         Checks.same("won(3)", x.won(3), 0);
-        Checks.refusedArgument(x, "won(-1)", () -> x.won(-1));
-        Checks.refusedArgument(x, "won(7)", () -> x.won(7));
+        x.refusedArgument("won(-1)", () -> x.won(-1));
+        x.refusedArgument("won(7)", () -> x.won(7));
     }
 }
