@@ -273,6 +273,12 @@ public final class SignEdgesTest {
         int near = x.contest(0, 1000, 5, 1050);
         x.passOn(near, 5, 1);
         Checks.same("it stands with a near bid", x.sign(near, 0, 5), 5);
+        int least = x.contestOf(0, 1000, 6, 1, true);
+        x.passOn(least, 6, 1);
+        Checks.same("it has withdrawn the least bid", x.sign(least, 0, 6), 4);
+        int leastOfAll = x.contest(3, 1, 4, 1);
+        x.passOn(leastOfAll, 4, 1);
+        Checks.same("it stands with the least bid", x.sign(leastOfAll, 3, 4), 3);
     }
 
     private static void promise10PassedToAThird() {

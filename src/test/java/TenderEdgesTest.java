@@ -230,17 +230,19 @@ public final class TenderEdgesTest {
     }
 
     private static void promise3OneBidEach() {
-        Watched x = withTenders(2);
-        x.bid(0, 2, 50);
-        for (int sum : new int[] {1, 49, 50, 51, 100000}) {
-            x.refusedState("a second bid", () -> x.bid(0, 2, sum));
+        for (int first : new int[] {1, 50, 100000}) {
+            Watched x = withTenders(2);
+            x.bid(0, 2, first);
+            for (int sum : new int[] {1, 49, 50, 51, 100000}) {
+                x.refusedState("a second bid", () -> x.bid(0, 2, sum));
+            }
+            Checks.same("the first bid stands", x.withdraw(0, 2), first);
+            for (int sum : new int[] {1, 49, 50, 51, 100000}) {
+                x.refusedState("a bid after a withdrawn one", () -> x.bid(0, 2, sum));
+            }
+            Checks.same("no bid stands", x.bid(0, 1, 60), 1);
+            Checks.same("a bid for another tender", x.bid(1, 2, 50), 1);
         }
-        Checks.same("the first bid stands", x.withdraw(0, 2), 50);
-        for (int sum : new int[] {1, 49, 50, 51, 100000}) {
-            x.refusedState("a bid after a withdrawn one", () -> x.bid(0, 2, sum));
-        }
-        Checks.same("no bid stands", x.bid(0, 1, 60), 1);
-        Checks.same("a bid for another tender", x.bid(1, 2, 50), 1);
     }
 
     private static void promise3CountOfStandingBids() {
